@@ -595,13 +595,13 @@ public final class BoundCode {
         }
 
         private void followCalls() {
-            for (int m = 0; m < program.count; m++) {
-                comesTo[m] = callsOf(program.find(m));
+            for (int number = 0; number < program.count; number++) {
+                comesTo[number] = callsOf(program.find(number));
             }
-            for (int by = 0; by < program.count; by++) {
-                for (int m = 0; m < program.count; m++) {
-                    if (isIn(by, comesTo[m])) {
-                        comesTo[m] |= comesTo[by];
+            for (int between = 0; between < program.count; between++) {
+                for (int number = 0; number < program.count; number++) {
+                    if (isIn(between, comesTo[number])) {
+                        comesTo[number] |= comesTo[between];
                     }
                 }
             }
@@ -633,8 +633,8 @@ public final class BoundCode {
 
         private int circularOnes() {
             int found = 0;
-            for (int m = 0; m < program.count; m++) {
-                found |= comesTo[m] & bit(m);
+            for (int number = 0; number < program.count; number++) {
+                found |= comesTo[number] & bit(number);
             }
             return found;
         }
@@ -647,11 +647,13 @@ public final class BoundCode {
             boolean areAllTold = true;
             int waiting = reached;
             for (int pass = 0; pass < program.count && waiting != 0; pass++) {
-                for (int m = 0; m < program.count; m++) {
-                    if (isIn(m, waiting) && (comesTo[m] & waiting) == 0) {
-                        bounds.count(m);
-                        waiting &= ~bit(m);
-                        areAllTold &= bounds.times[m] != Bounds.BEYOND;
+                for (int number = 0; number < program.count; number++) {
+                    Method m = program.find(number);
+                    if (m != null && isIn(number, waiting) && (comesTo[number] & waiting) == 0) {
+                        bounds.stacks[number] = bounds.stackOf(m);
+                        bounds.times[number] = bounds.timeOf(m);
+                        waiting &= ~bit(number);
+                        areAllTold &= bounds.times[number] != Bounds.BEYOND;
                     }
                 }
             }
@@ -667,7 +669,7 @@ public final class BoundCode {
         }
     }
 
-    /** STACK and TIME of METHODS without a FAULT, of what is called first. */
+    /** STACK and TIME of METHODS without a FAULT: those of what is called must stand before. */
     private static final class Bounds {
         /** Stands for each number above 2^63 - 1: all that is told of those is that. */
         private static final long BEYOND = -2;
@@ -689,16 +691,8 @@ public final class BoundCode {
             toReturn = new long[MOST_INSTRUCTIONS + 1];
         }
 
-        void count(int number) {
-            Method m = program.find(number);
-            if (m != null) {
-                stacks[number] = stackOf(m);
-                times[number] = timeOf(m);
-            }
-        }
-
         /** The HEIGHT behind an INSTRUCTION is that before the next, or no more than its own. */
-        private long stackOf(Method m) {
+        long stackOf(Method m) {
             long greatest = 0;
             for (int i = 0; i < m.size; i++) {
                 if (m.isMet(i)) {
@@ -719,7 +713,7 @@ public final class BoundCode {
         }
 
         /** From the last INSTRUCTION on, since a PATH only goes forward but for its LOOPS. */
-        private long timeOf(Method m) {
+        long timeOf(Method m) {
             toEnd[m.size] = NO_PATH;
             toReturn[m.size] = NO_PATH;
             for (int i = m.size - 1; i >= 0; i--) {
