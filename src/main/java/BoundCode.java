@@ -871,7 +871,6 @@ public final class BoundCode {
         }
 
         private void reset() {
-            depth = 0;
             top = 0;
             loops = 0;
             result = 0;

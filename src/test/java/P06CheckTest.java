@@ -5,6 +5,7 @@ public final class P06CheckTest {
     public static void main(String[] args) {
         BoundCode none = new BoundCode();
         none.method(0, 0, 0);
+        DUE.is("check of one that has never had any", none.check(0), 9);
         DUE.noMethod("check(1)", () -> none.check(1));
         DUE.noMethod("check(-1)", () -> none.check(-1));
         forms();

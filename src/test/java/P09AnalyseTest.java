@@ -34,8 +34,28 @@ public final class P09AnalyseTest {
         x.change(6, 1, 15, 0);
         x.add(6, 17, 0);
         DUE.is("of none any more", x.analyse(0), 0);
+        firstMethod();
         tooGreat();
         DUE.end();
+    }
+
+    /** METHOD 0 is one as all others, where it is come to by CALLS. */
+    private static void firstMethod() {
+        BoundCode x = new BoundCode();
+        Code.plain(x, "CALL 2, RETURN");
+        Code.plain(x, "CALL 0, RETURN");
+        Code.plain(x, "CALL 1, RETURN");
+        DUE.is("of a cycle by way of 0", x.analyse(1), 2);
+        for (int m = 0; m < 3; m++) {
+            DUE.is(m + " is REACHED", x.told(m, 0), 1);
+            DUE.is(m + " can come to itself", x.told(m, 2), 1);
+        }
+        x.change(0, 0, 16, 0);
+        DUE.is("of 0 that CALLS itself", x.analyse(1), 2);
+        DUE.is("only 0 can come to itself", x.told(1, 2), 0);
+        x.change(0, 0, 1, 0);
+        DUE.is("of a FAULT in 0", x.analyse(1), 1);
+        DUE.is("it is in 0", x.told(0, 1), 1);
     }
 
     private static void tooGreat() {

@@ -22,9 +22,14 @@ public final class P10ToldTest {
         told(x, "of one that CALLS itself", "00001", "00000", "00001");
         DUE.is("analyse(3)", x.analyse(3), 1);
         told(x, "of one with a FAULT", "00010", "00010", "00000");
-        x.change(2, 0, 1, 0);
+        x.change(2, 0, 16, 3);
+        x.change(2, 1, 1, 0);
         DUE.is("analyse(0)", x.analyse(0), 1);
         told(x, "CALLS of one with a FAULT are not followed", "11100", "00100", "00000");
+        x.change(2, 1, 99, 0);
+        DUE.is("analyse(0)", x.analyse(0), 1);
+        told(x, "nor with one of another kind", "11100", "00100", "00000");
+        x.change(2, 1, 12, 2);
         x.change(2, 0, 17, 0);
         DUE.is("analyse(0)", x.analyse(0), 0);
         told(x, "without", "11100", "00000", "00000");

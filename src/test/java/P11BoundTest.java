@@ -6,6 +6,7 @@ public final class P11BoundTest {
         stacks();
         paths();
         loops();
+        oneBehindAnother();
         chains();
         edges();
         lastAnalyse();
@@ -73,6 +74,22 @@ public final class P11BoundTest {
         time("LOOP 2, PUSH 0, IFNOT 5, JUMP 5, RETURN, END, RETURN", 1 + 2 * 4 + 1);
         time("LOOP 7, PUSH 1, PUSH 1, CALL 0, POP, END, RETURN", 1 + 7 * 9 + 1);
         time("LOOP 0, LOOP 1000000000, END, END, RETURN", 2);
+        time(Code.times(59, "PUSH 1, POP") + ",JUMP 119, RETURN", 120);
+    }
+
+    /** What one METHOD needed is no part of what the next one needs. */
+    private static void oneBehindAnother() {
+        BoundCode x = new BoundCode();
+        x.cost(17, 1000);
+        Code.plain(x, "PUSH 1, IFNOT 3, RETURN, RETURN");
+        Code.plain(x, "LOOP 2, PUSH 1, POP, END, RETURN");
+        Code.plain(x, "PUSH 1, POP, LOOP 2, END, RETURN");
+        for (int m = 0; m < 3; m++) {
+            x.analyse(m);
+        }
+        DUE.is("TIME behind others", x.bound(2, 1), 2 + 1 + 2 + 1000);
+        x.analyse(1);
+        DUE.is("TIME behind others", x.bound(1, 1), 1 + 2 * 3 + 1000);
     }
 
     /** Each METHOD does the next one ten times. */
@@ -116,10 +133,30 @@ public final class P11BoundTest {
         DUE.is("2^63", x.analyse(m), 3);
         DUE.is("2^63", x.bound(m, 1), BoundCode.NONE);
         DUE.is("STACK beside 2^63", x.bound(m, 0), 1);
+        beyond(x);
         time("LOOP 1000000000, LOOP 1000000000, LOOP 1000000000, END, END, END, RETURN", -1);
         time(Code.times(8, "LOOP 1000000000") + "," + Code.times(8, "END") + ",RETURN", -1);
         time("PUSH 1, IFNOT 3, RETURN," + Code.times(3, "LOOP 1000000000") + ","
                 + Code.times(3, "END") + ",RETURN", -1);
+    }
+
+    /** 2^64 and 2^64 + 2^16 would be 0 and 2^16, if they wrapped; only PUSH costs here. */
+    private static void beyond(BoundCode x) {
+        x.cost(0, 1);
+        x.cost(17, 0);
+        String much = "LOOP 65536, LOOP 65536, LOOP 65536, LOOP 65536, PUSH 1, POP, END, END, END,"
+                + "END,";
+        int once = Code.plain(x, much + "RETURN");
+        int more = Code.plain(x, much + "LOOP 65536, PUSH 1, POP, END, RETURN");
+        int called = Code.plain(x, "LOOP 65536, CALL " + once + ", END, PUSH 1, POP, RETURN");
+        for (int m : new int[] {once, more, called}) {
+            x.cost(0, 1);
+            DUE.is("2^64 and more, analyse(" + m + ")", x.analyse(m), 3);
+            DUE.is("2^64 and more, TIME of " + m, x.bound(m, 1), BoundCode.NONE);
+            x.cost(0, 1000);
+            DUE.is("1000 times as much, analyse(" + m + ")", x.analyse(m), 3);
+            DUE.is("1000 times as much, TIME of " + m, x.bound(m, 1), BoundCode.NONE);
+        }
     }
 
     private static void lastAnalyse() {

@@ -6,6 +6,7 @@ public final class P13RunTest {
         wrong();
         operations();
         flow();
+        leftovers();
         limits();
         faults();
         depth();
@@ -64,6 +65,7 @@ public final class P13RunTest {
         result("LOAD 0, IFNOT 4, PUSH 1, RETURN, PUSH 2, RETURN", 1, -1);
         result("LOOP 5, LOAD 0, PUSH 1, ADD, STORE 0, END, LOAD 0, RETURN", 8, 3);
         result("LOOP 0, PUSH 1, STORE 0, END, LOAD 0, RETURN", 3, 3);
+        result("LOOP 1, LOAD 0, PUSH 1, ADD, STORE 0, END, LOAD 0, RETURN", 4, 3);
         result("LOOP 3, LOOP 4, LOAD 0, PUSH 1, ADD, STORE 0, END, END, LOAD 0, RETURN", 12, 0);
         result("LOOP 9, LOAD 0, PUSH 1, ADD, STORE 0, LOAD 0, PUSH 4, LESS, IFNOT 10, JUMP 12,"
                 + "LOAD 0, RETURN, END, PUSH 77, RETURN", 4, 0);
@@ -76,6 +78,22 @@ public final class P13RunTest {
         Code.method(x, 2, 1, 2, "LOOP 7, LOAD 0, LOAD 1, ADD, RETURN, END, RETURN");
         DUE.is("run of CALLS", Code.run(x, 1, 1000), 1);
         DUE.is("their result; LOCALS are 0 anew, LOOPS of the caller stay", x.ran(0), 77);
+    }
+
+    /** RUNS that stop in their LOOPS, or give nothing back, leave nothing behind. */
+    private static void leftovers() {
+        BoundCode x = new BoundCode();
+        Code.plain(x, Code.times(8, "LOOP 2") + "," + Code.times(8, "END") + ", RETURN");
+        for (int k = 0; k < 120; k++) {
+            x.run(0, 8);
+        }
+        DUE.is("run behind 120 that stopped", x.run(0, 2000), 1);
+        DUE.is("what it did", x.ran(3), 255 + 510 + 1);
+        Code.method(x, 0, 1, 0, "PUSH 5, CALL 2, RETURN");
+        Code.plain(x, "RETURN");
+        DUE.is("run of a CALL that gives nothing", x.run(1, 10), 1);
+        DUE.is("its result", x.ran(0), 5);
+        DUE.is("its WORDS", x.ran(2), 3);
     }
 
     private static void limits() {

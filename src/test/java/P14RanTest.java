@@ -33,6 +33,7 @@ public final class P14RanTest {
         ran(x, "of a FAULT", 0, 0, 0, 0, 0);
         loops();
         words();
+        mostOfAll();
         DUE.end();
     }
 
@@ -52,6 +53,25 @@ public final class P14RanTest {
         ran(x, "of a LOOP", 0, 1000 + 3 * 12 + 1, 1, 11, 0);
         x.run(1, 100);
         ran(x, "of a LOOP of 0", 0, 1001, 0, 2, 0);
+    }
+
+    /** As many METHODS as may be, each with all that it may have. */
+    private static void mostOfAll() {
+        BoundCode x = new BoundCode();
+        Code.method(x, 0, 0, 16, Code.times(100, "PUSH 7") + ", CALL 0,"
+                + Code.times(12, "CALL 1") + "," + Code.times(4, "POP") + ", RETURN");
+        Code.method(x, 8, 0, 8, "RETURN");
+        DUE.is("run as deep as may be", x.run(0, 100000), 3);
+        ran(x, "of as many words as may be", 0, 100 * 100 + 99, 100 * 116 + 2 * 99,
+                100 * 100 + 99, 99);
+        BoundCode y = new BoundCode();
+        String ends = Code.times(8, "END") + ", RETURN";
+        Code.method(y, 1, 0, 1, Code.times(8, "LOOP 1") + ", LOAD 0, IFNOT 15, LOAD 0, PUSH 1,"
+                + "SUB, CALL 0, JUMP 16, CALL 1," + ends);
+        Code.plain(y, Code.times(8, "LOOP 2") + "," + ends);
+        DUE.is("run in as many LOOPS as may be", Code.run(y, 0, 100000, 98), 1);
+        int did = 98 * 24 + 20 + 255 + 510 + 1;
+        ran(y, "of as many LOOPS as may be", 0, did, 99 + 2 * 99, did, 99);
     }
 
     /** WORDS are of the highest time, be it before, in or behind a CALL. */
