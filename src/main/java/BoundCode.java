@@ -653,7 +653,7 @@ public final class BoundCode {
                         bounds.stacks[number] = bounds.stackOf(m);
                         bounds.times[number] = bounds.timeOf(m);
                         waiting &= ~bit(number);
-                        areAllTold &= bounds.times[number] != Bounds.BEYOND;
+                        areAllTold = areAllTold && bounds.times[number] != Bounds.BEYOND;
                     }
                 }
             }

@@ -1,12 +1,51 @@
-/** Compares answers with those that are due, and ends a test. */
+import java.io.IOException;
+import java.nio.file.Files;
+import java.nio.file.Path;
+
+/** Compares answers with those that are due, sentence by sentence, and ends a test. */
 final class Due {
     /** One call of the class; a test hands it over, so that what it throws can be seen. */
     interface Call {
         long answer();
     }
 
+    private static final Path DOCUMENT = Path.of("..", "shared", "DOC.md");
+
+    private final String document = document();
+    private String sentence = "";
+    private int sentences;
+    private int askedBefore;
     private int wrong;
     private int asked;
+
+    /**
+     * What is asked from here on is due by this sentence of the document. It is looked up there, so
+     * that no test outlives its sentence; and one of which nothing is asked is a fault.
+     */
+    void sentence(String quoted) {
+        closeSentence();
+        sentence = quoted;
+        sentences++;
+        askedBefore = asked;
+        if (!document.isEmpty() && !document.contains(quoted)) {
+            tell("the document has no such sentence");
+        }
+    }
+
+    private void closeSentence() {
+        if (sentences > 0 && asked == askedBefore) {
+            tell("nothing was asked");
+        }
+    }
+
+    private static String document() {
+        try {
+            return Files.isReadable(DOCUMENT)
+                    ? Files.readString(DOCUMENT).replaceAll("\\s+", " ") : "";
+        } catch (IOException unreadable) {
+            return "";
+        }
+    }
 
     void is(String call, long got, long want) {
         asked++;
@@ -17,10 +56,13 @@ final class Due {
 
     /** The exception must be of exactly this class: the machine's own ones are classes below it. */
     void refused(String call, Class<? extends RuntimeException> kind, Call made) {
+        alike(call, outcome(made), kind.getName());
+    }
+
+    void alike(String call, String got, String want) {
         asked++;
-        String got = outcome(made);
-        if (!got.equals(kind.getName())) {
-            tell(call + " answered " + got + ", due is " + kind.getName());
+        if (!got.equals(want)) {
+            tell(call + " answered " + got + ", due is " + want);
         }
     }
 
@@ -43,7 +85,7 @@ final class Due {
 
     void tell(String fault) {
         wrong++;
-        System.out.println(fault);
+        System.out.println((sentence.isEmpty() ? "" : "\"" + sentence + "\": ") + fault);
     }
 
     boolean isClean() {
@@ -51,7 +93,9 @@ final class Due {
     }
 
     void end() {
-        System.out.println(asked + " answers asked, " + wrong + " wrong");
+        closeSentence();
+        System.out.println(sentences + " sentences, " + asked + " answers asked, " + wrong
+                + " wrong");
         if (wrong != 0 || asked == 0) {
             System.exit(1);
         }
