@@ -2,7 +2,6 @@ import java.lang.reflect.Constructor;
 import java.lang.reflect.Field;
 import java.lang.reflect.Method;
 import java.lang.reflect.Modifier;
-import java.util.Arrays;
 import java.util.HashSet;
 import java.util.Set;
 import java.util.TreeSet;
@@ -10,59 +9,77 @@ import java.util.TreeSet;
 /** The face of the class is the document's, and no more. */
 public final class FaceTest {
     private static final Due DUE = new Due();
-    private static final String INDEX = " throws IndexOutOfBoundsException";
-    private static final String BOTH = INDEX + " IllegalArgumentException";
-    private static final String[] FACE = {
-        "int method(int int int) throws IllegalArgumentException",
-        "int add(int int long)" + INDEX,
-        "int change(int int int long)" + INDEX,
-        "int cost(int int)" + BOTH,
-        "int check(int)" + INDEX,
+    private static final Class<?> FACE = BoundCode.class;
+    private static final String[] METHODS = {
+        "int method(int arguments, int results, int locals) throws IllegalArgumentException",
+        "int add(int method, int operation, long arg) throws IndexOutOfBoundsException",
+        "int change(int method, int i, int operation, long arg) throws IndexOutOfBoundsException",
+        "int cost(int operation, int cycles) throws IndexOutOfBoundsException, "
+            + "IllegalArgumentException",
+        "int check(int method) throws IndexOutOfBoundsException",
         "int place()",
-        "int height(int int)" + INDEX,
-        "int analyse(int)" + INDEX,
-        "int told(int int)" + INDEX,
-        "long bound(int int)" + INDEX,
-        "int argument(long) throws IllegalStateException",
-        "int run(int int)" + BOTH,
-        "long ran(int)" + INDEX,
-        "int about(int int)" + INDEX,
+        "int height(int method, int i) throws IndexOutOfBoundsException",
+        "int analyse(int method) throws IndexOutOfBoundsException",
+        "int told(int method, int what) throws IndexOutOfBoundsException",
+        "long bound(int method, int what) throws IndexOutOfBoundsException",
+        "int argument(long v) throws IllegalStateException",
+        "int run(int method, int most) throws IndexOutOfBoundsException, IllegalArgumentException",
+        "long ran(int what) throws IndexOutOfBoundsException",
+        "int about(int method, int what) throws IndexOutOfBoundsException",
     };
 
     public static void main(String[] args) {
-        Class<?> face = BoundCode.class;
-        holds("public and final", Modifier.isPublic(face.getModifiers())
-                && Modifier.isFinal(face.getModifiers()));
-        Constructor<?>[] made = face.getDeclaredConstructors();
-        holds("one constructor", made.length == 1 && made[0].getParameterCount() == 0
-                && Modifier.isPublic(made[0].getModifiers()));
-        methods(face);
-        fields(face);
-        for (Class<?> inside : face.getDeclaredClasses()) {
+        classes();
+        constructor();
+        methods();
+        fields();
+        DUE.end();
+    }
+
+    private static void classes() {
+        DUE.sentence("public final class BoundCode {");
+        holds("public and final", Modifier.isPublic(FACE.getModifiers())
+                && Modifier.isFinal(FACE.getModifiers()));
+        for (Class<?> inside : FACE.getDeclaredClasses()) {
             holds(inside + " is static and hidden", Modifier.isStatic(inside.getModifiers())
                     && !Modifier.isPublic(inside.getModifiers())
                     && !Modifier.isProtected(inside.getModifiers()));
             staticsAreFinal(inside);
         }
-        DUE.end();
     }
 
-    private static void methods(Class<?> face) {
+    private static void constructor() {
+        DUE.sentence("public BoundCode();");
+        Constructor<?>[] made = FACE.getDeclaredConstructors();
+        holds("one constructor", made.length == 1 && made[0].getParameterCount() == 0
+                && Modifier.isPublic(made[0].getModifiers())
+                && made[0].getExceptionTypes().length == 0);
+    }
+
+    private static void methods() {
         Set<String> open = new TreeSet<>();
         Set<String> names = new HashSet<>();
-        for (Method m : face.getDeclaredMethods()) {
+        DUE.sentence("## The public face");
+        for (Method m : FACE.getDeclaredMethods()) {
             if (!Modifier.isPrivate(m.getModifiers())) {
                 holds(m + " is public and no static", m.getModifiers() == Modifier.PUBLIC);
                 open.add(written(m));
                 names.add(m.getName());
             }
         }
-        Set<String> due = new TreeSet<>(Arrays.asList(FACE));
-        holds("methods are " + open + ", due are " + due, open.equals(due));
-        for (Method m : face.getDeclaredMethods()) {
+        for (Method m : FACE.getDeclaredMethods()) {
             holds(m + " bears no public name", !Modifier.isPrivate(m.getModifiers())
                     || !names.contains(m.getName()));
         }
+        DUE.is("public methods", open.size(), METHODS.length);
+        for (String due : METHODS) {
+            DUE.sentence("public " + due + ";");
+            holds("it is among " + open, open.contains(withoutNames(due)));
+        }
+    }
+
+    private static String withoutNames(String due) {
+        return due.replaceAll("(int|long) \\w+(?=[,)])", "$1");
     }
 
     private static String written(Method m) {
@@ -76,15 +93,21 @@ public final class FaceTest {
         for (int k = 0; k < all.length; k++) {
             all[k] = classes[k].getSimpleName();
         }
-        return String.join(" ", all);
+        return String.join(", ", all);
     }
 
-    private static void fields(Class<?> face) {
-        for (Field f : face.getDeclaredFields()) {
-            holds(f + " is hidden, but for NONE", f.getName().equals("NONE")
-                    == !Modifier.isPrivate(f.getModifiers()));
+    private static void fields() {
+        DUE.sentence("public static final int NONE = -1;");
+        int open = 0;
+        for (Field f : FACE.getDeclaredFields()) {
+            boolean isNone = f.getName().equals("NONE") && f.getType() == int.class
+                    && Modifier.isPublic(f.getModifiers());
+            holds(f + " is hidden, but for NONE", isNone || Modifier.isPrivate(f.getModifiers()));
+            open += isNone ? 1 : 0;
         }
-        staticsAreFinal(face);
+        DUE.is("public fields", open, 1);
+        DUE.is("NONE", BoundCode.NONE, -1);
+        staticsAreFinal(FACE);
     }
 
     private static void staticsAreFinal(Class<?> c) {

@@ -51,7 +51,8 @@ public final class P04ChangeTest {
     }
 
     private static void noSuchInstruction() {
-        DUE.sentence("Answers its OPERATION before. IndexOutOfBoundsException: there is none such.");
+        DUE.sentence("Answers its OPERATION before. IndexOutOfBoundsException: there is none "
+                + "such.");
         BoundCode x = new BoundCode();
         Code.plain(x, "PUSH 1, POP, RETURN");
         Code.plain(x, "PUSH 1, POP, PUSH 1, POP, RETURN");
@@ -73,7 +74,8 @@ public final class P04ChangeTest {
     }
 
     private static void noSuchMethod() {
-        DUE.sentence("Answers its OPERATION before. IndexOutOfBoundsException: there is none such.");
+        DUE.sentence("Answers its OPERATION before. IndexOutOfBoundsException: there is none "
+                + "such.");
         BoundCode x = new BoundCode();
         Code.plain(x, "RETURN");
         Code.plain(x, "RETURN");

@@ -17,6 +17,8 @@ public final class RefusedTest {
 
     private static final int MIN = Integer.MIN_VALUE;
     private static final int MAX = Integer.MAX_VALUE;
+    /** How many METHODS the state has that all others grow from. */
+    private static final int KNOWN = 6;
     private static final int[] FAR = {-1, 32, MIN, MAX};
     private static final Due DUE = new Due();
 
@@ -39,7 +41,7 @@ public final class RefusedTest {
         DUE.end();
     }
 
-    /** METHODS sound, circular, with a FAULT and empty; checked, analysed, run, with two words. */
+    /** METHODS sound, with a FAULT, circular and empty; checked, analysed, run, with two words. */
     private static BoundCode used() {
         BoundCode x = new BoundCode();
         Code.method(x, 1, 1, 2, "LOAD 0, PUSH 3, CALL 1, RETURN");
@@ -47,6 +49,7 @@ public final class RefusedTest {
         Code.plain(x, "PUSH 1, POP, POP, RETURN");
         Code.plain(x, "CALL 3, RETURN");
         x.method(0, 0, 0);
+        Code.method(x, 8, 1, 8, "LOAD 0, LOAD 7, SUB, PUSH 10, MUL, LOAD 2, ADD, RETURN");
         x.cost(0, 7);
         x.cost(17, 3);
         x.check(2);
@@ -59,7 +62,7 @@ public final class RefusedTest {
 
     private static BoundCode fullOfMethods() {
         BoundCode x = used();
-        for (int m = 5; m < 32; m++) {
+        for (int m = KNOWN; m < 32; m++) {
             x.method(0, 0, 0);
         }
         return x;
@@ -102,7 +105,7 @@ public final class RefusedTest {
         for (int cycles : new int[] {-1, 1000001, MIN, MAX}) {
             refused(state, "cost, cycles", x -> x.cost(17, cycles));
         }
-        for (int m = 0; m < Math.min(methods, 5); m++) {
+        for (int m = 0; m < Math.min(methods, KNOWN); m++) {
             throwingOf(state, m);
         }
     }
@@ -121,7 +124,7 @@ public final class RefusedTest {
         for (int most : new int[] {-1, 100001, MIN, MAX}) {
             refused(state, "run, most", x -> x.run(m, most));
         }
-        if (m != 1) {
+        if (m != 1 && m != 5) {
             refused(state, "run, words", x -> x.run(m, 10));
         }
     }
@@ -184,7 +187,7 @@ public final class RefusedTest {
         ask(asked::place);
         askRan();
         askTold();
-        for (int m = 0; m < 5; m++) {
+        for (int m = 0; m < KNOWN; m++) {
             int method = m;
             for (int what = 0; what < 4; what++) {
                 int w = what;
@@ -195,12 +198,13 @@ public final class RefusedTest {
                 ask(() -> asked.height(method, at));
             }
         }
+        ask(() -> asked.run(5, 100));
         ask(() -> asked.run(1, 100));
         askRan();
         ask(() -> asked.argument(4));
         ask(() -> asked.run(0, 100));
         askRan();
-        for (int m = 0; m < 5; m++) {
+        for (int m = 0; m < KNOWN; m++) {
             int method = m;
             ask(() -> asked.check(method));
             ask(asked::place);
@@ -219,7 +223,7 @@ public final class RefusedTest {
     }
 
     private void askTold() {
-        for (int m = 0; m < 6; m++) {
+        for (int m = 0; m <= KNOWN; m++) {
             int method = m;
             for (int what = 0; what < 3; what++) {
                 int w = what;
@@ -235,7 +239,7 @@ public final class RefusedTest {
             int o = operation;
             ask(() -> asked.cost(o, 5));
         }
-        for (int m = 0; m < 5; m++) {
+        for (int m = 0; m < KNOWN; m++) {
             int method = m;
             for (int i = 0; i < 9; i++) {
                 int at = i;
